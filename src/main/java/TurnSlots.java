@@ -33,7 +33,6 @@ public final class TurnSlots {
     private final Machine[] saves = new Machine[SAVES];
     private final boolean[] isSaved = new boolean[SAVES];
     private final Pad pad = new Pad();
-    private final ProgramText text = new ProgramText(pad);
 
     public TurnSlots() {
         for (int slot = 0; slot < SAVES; slot++) {
@@ -60,13 +59,13 @@ public final class TurnSlots {
     }
 
     public int read() {
-        if (text.findFault() != NONE) {
+        if (pad.findFault() != NONE) {
             return BAD_TEXT;
         }
         history.record(now);
-        now.contexts[text.context].load(text);
+        now.contexts[pad.context].load(pad);
         pad.length = 0;
-        return text.context;
+        return pad.context;
     }
 
     public int prefer(int context, int priority) {
@@ -259,7 +258,7 @@ public final class TurnSlots {
     }
 
     public int fault() {
-        return text.findFault();
+        return pad.findFault();
     }
 
     // ---- undo, saving
@@ -366,10 +365,10 @@ public final class TurnSlots {
         }
 
         /** Inbox, priority and accounts stay: the document names place, sum and sleep alone. */
-        void load(ProgramText text) {
+        void load(Pad pad) {
             commands = 0;
-            for (int i = 0; i < text.commands; i++) {
-                append(text.kinds[i], text.numbers[i]);
+            for (int i = 0; i < pad.commands; i++) {
+                append(pad.kinds[i], pad.numbers[i]);
             }
             marks = 0;
             place = 0;
@@ -659,10 +658,18 @@ public final class TurnSlots {
         }
     }
 
-    /** The text that is put together. */
+    /** The text that is put together, and the program that it tells. */
     private static final class Pad {
+        private static final int NO_DIGIT = 10;
+
         private final char[] characters = new char[LONGEST_PAD];
         int length;
+        /** What the latest reading found: only a text without a fault fills them whole. */
+        final int[] kinds = new int[MOST_COMMANDS];
+        final int[] numbers = new int[MOST_COMMANDS];
+        int context;
+        int commands;
+        private int at;
 
         /** How many characters a number gives, 0 if they are no good ones. */
         static int charactersIn(long number) {
@@ -687,27 +694,11 @@ public final class TurnSlots {
         }
 
         /** Behind the end stands a character that no text may hold, so that readers need not look at the length. */
-        char characterAt(int index) {
+        private char characterAt(int index) {
             return index >= 0 && index < length ? characters[index] : 0;
         }
-    }
 
-    /** Reads the pad from left to right, and keeps the program that it tells. */
-    private static final class ProgramText {
-        private static final int NO_DIGIT = 10;
-
-        private final Pad pad;
-        final int[] kinds = new int[MOST_COMMANDS];
-        final int[] numbers = new int[MOST_COMMANDS];
-        int context;
-        int commands;
-        private int at;
-
-        ProgramText(Pad pad) {
-            this.pad = pad;
-        }
-
-        /** Context and program are those of the text only if it answers NONE. */
+        /** Reads from left to right: where it cannot go on, there is the fault. */
         int findFault() {
             at = 0;
             commands = 0;
@@ -719,7 +710,7 @@ public final class TurnSlots {
             if (!takeCharacter(':')) {
                 return at;
             }
-            boolean more = at < pad.length;
+            boolean more = at < length;
             while (more && commands < MOST_COMMANDS) {
                 if (!takeCommand()) {
                     return at;
@@ -727,11 +718,11 @@ public final class TurnSlots {
                 commands++;
                 more = commands < MOST_COMMANDS && takeCharacter(',');
             }
-            return at < pad.length ? at : NONE;
+            return at < length ? at : NONE;
         }
 
         private boolean takeCharacter(char expected) {
-            if (pad.characterAt(at) != expected) {
+            if (characterAt(at) != expected) {
                 return false;
             }
             at++;
@@ -739,7 +730,7 @@ public final class TurnSlots {
         }
 
         private boolean takeCommand() {
-            int kind = LETTERS.indexOf(pad.characterAt(at));
+            int kind = LETTERS.indexOf(characterAt(at));
             if (kind < 0) {
                 return false;
             }
@@ -766,7 +757,7 @@ public final class TurnSlots {
         }
 
         private int digitHere() {
-            char character = pad.characterAt(at);
+            char character = characterAt(at);
             return character >= '0' && character <= '9' ? character - '0' : NO_DIGIT;
         }
     }

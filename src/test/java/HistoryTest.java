@@ -8,6 +8,7 @@ public final class HistoryTest {
         errorsRecordNothing();
         padAndSavesStay();
         wholeState();
+        marks();
         saveErrors();
         saves();
         restoreIsUndone();
@@ -137,6 +138,21 @@ public final class HistoryTest {
         x.step(200);
         due("22 restore", x.restore(1), 7);
         same("22", before, all(x));
+    }
+
+    private static void marks() {
+        TurnSlots x = Checks.machine("0:a1,b1,a2");
+        x.step(2);
+        due("10 on", x.command(0, 1, 2), 1);
+        x.save(0);
+        x.step(2);
+        due("10 off", x.command(0, 1, 2), 0);
+        due("20 undo", x.undo(), 2);
+        due("20 on again", x.command(0, 1, 2), 1);
+        x.step(3);
+        x.restore(0);
+        due("22 on again", x.command(0, 1, 2), 1);
+        due("16 and in what if", x.sumBehind(0, 9), 4);
     }
 
     private static void same(String promise, int[] before, int[] behind) {

@@ -8,6 +8,7 @@ public final class WaitingTest {
         states();
         waitsByLock();
         waitsByTake();
+        lentByTheFirst();
         waitsBySend();
         lentAlongChains();
         lentBeforeTheSlot();
@@ -121,6 +122,19 @@ public final class WaitingTest {
         y.step(1);
         due("9 for one that sleeps", y.of(6, 8), 2);
         due("9 a SEND at the end", y.of(1, 7), 2);
+        y = Checks.machine("7:t", "0:a1,s7");
+        due("9 for 0", y.of(7, 8), 1);
+        Checks.give(y, "0:a1");
+        due("9 not by a program that it had", y.of(7, 8), 0);
+    }
+
+    private static void lentByTheFirst() {
+        TurnSlots x = Checks.machine("0:t", "6:a1,s0");
+        x.prefer(0, 3);
+        due("9 lent by 0", x.of(6, 4), 3);
+        TurnSlots y = Checks.machine("7:t", "0:a1,s7");
+        y.prefer(7, 2);
+        due("9 lent to 0", y.of(0, 4), 2);
     }
 
     private static void waitsBySend() {
